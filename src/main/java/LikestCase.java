@@ -302,7 +302,7 @@ public final class LikestCase {
         if (court.points() > HANG_POINTS) {
             return NOT;
         }
-        return i == NONE ? examiner.countHanging() : examiner.firstHanging(i);
+        return i == NONE ? examiner.countHanging() : examiner.firstHanging();
     }
 
     // ---- the land of all deeds
@@ -421,14 +421,9 @@ public final class LikestCase {
 
     /** A number for each POINT (WEIGHTS or COSTS), and for each set of POINTS theirs together. */
     private static final class Scale {
-        private final int[] each;
-        private final int[] sums;
+        private final int[] each = new int[MOST_POINTS];
+        private final int[] sums = new int[1 << MOST_POINTS];
         private int points;
-
-        Scale(int mostPoints) {
-            each = new int[mostPoints];
-            sums = new int[1 << mostPoints];
-        }
 
         void fill(int newPoints, int number) {
             points = Math.min(newPoints, each.length);
@@ -627,8 +622,8 @@ public final class LikestCase {
 
     /** The land as it stands: POINTS, CASES, and BY which of these each DEED is JUDGED. */
     private static final class Court {
-        private final Scale weights = new Scale(MOST_POINTS);
-        private final Scale costs = new Scale(MOST_POINTS);
+        private final Scale weights = new Scale();
+        private final Scale costs = new Scale();
         private final Roll roll = new Roll();
         private int points;
         /** What judgeAll() found for each DEED; it holds until CASES or WEIGHTS change. */
@@ -1115,7 +1110,6 @@ public final class LikestCase {
     /** Which CASES FOLLOW from ELDER ones. */
     private static final class Examiner {
         private final Court court;
-        private final Scale trial = new Scale(HANG_POINTS);
 
         Examiner(Court court) {
             this.court = court;
@@ -1146,40 +1140,20 @@ public final class LikestCase {
             return all;
         }
 
+        // The second ELDEST CASE FOLLOWS just if it was JUDGED as the ELDEST; then the third just if
+        // it was JUDGED as these two, and so on: by all WEIGHTS alike. So HANG is all or none.
+
         int countHanging() {
-            int found = 0;
-            trial.fill(court.points(), 0);
-            for (int code = 0; code < trialCount(); code++) {
-                if (hangsTogether(code)) {
-                    found++;
-                }
-            }
-            return found;
+            return hangsTogether() ? (int) power(HANG_WEIGHTS, court.points()) : 0;
         }
 
-        /** The WEIGHT of a POINT in the first WEIGHTS of HANG, or NONE. */
-        int firstHanging(int point) {
-            trial.fill(court.points(), 0);
-            for (int code = 0; code < trialCount(); code++) {
-                if (hangsTogether(code)) {
-                    return trial.at(point);
-                }
-            }
-            return NONE;
+        /** The WEIGHT of every POINT in the first WEIGHTS of HANG, or NONE. */
+        int firstHanging() {
+            return hangsTogether() ? 0 : NONE;
         }
 
-        private int trialCount() {
-            return (int) power(HANG_WEIGHTS, Math.min(court.points(), HANG_POINTS));
-        }
-
-        /** Codes go up as the WEIGHTS do, so POINT 0 has the highest figure. */
-        private boolean hangsTogether(int code) {
-            int rest = code;
-            for (int point = court.points() - 1; point >= 0; point--) {
-                trial.put(point, rest % HANG_WEIGHTS);
-                rest /= HANG_WEIGHTS;
-            }
-            return court.roll.allFollow(court.roll.allCases(), trial);
+        private boolean hangsTogether() {
+            return court.roll.allFollow(court.roll.allCases(), court.weights);
         }
     }
 

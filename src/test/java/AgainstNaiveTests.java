@@ -2,15 +2,15 @@ import java.util.Random;
 
 /** Runs of calls by fixed seeds, answered by LikestCase and by NaiveCourt: all answers must be alike. */
 public final class AgainstNaiveTests {
-    private static final int RUNS = 400, CALLS = 150;
+    private static final int RUNS = 400, CALLS = 150, LANDS = 120;
     private static final String[] WORDS = {"land", "weight", "cost", "case", "case", "case", "case", "pardon", "drop"};
     private static final String NOISE = ";; 019azP\n";
+    private static final Check CHECK = new Check();
 
-    private final Check check = new Check();
     private final Random random;
     private final LikestCase x = new LikestCase();
     private final NaiveCourt y = new NaiveCourt();
-    private int seed;
+    private final int seed;
 
     private AgainstNaiveTests(int seed) {
         this.seed = seed;
@@ -18,34 +18,71 @@ public final class AgainstNaiveTests {
     }
 
     public static void main(String[] args) {
-        Check all = new Check();
-        int wrong = 0;
-        for (int seed = 1; seed <= RUNS && wrong == 0; seed++) {
-            AgainstNaiveTests run = new AgainstNaiveTests(seed);
-            wrong += run.go();
+        boolean alike = true;
+        for (int seed = 1; seed <= RUNS && alike; seed++) {
+            alike = new AgainstNaiveTests(seed).runOfCalls();
         }
-        all.due("runs that are not alike", wrong, 0);
-        all.end("AgainstNaiveTests, " + RUNS + " runs");
+        for (int seed = 1; seed <= LANDS && alike; seed++) {
+            alike = new AgainstNaiveTests(1000000 + seed).wholeLand();
+        }
+        CHECK.end("AgainstNaiveTests");
     }
 
-    private int go() {
+    private boolean runOfCalls() {
         for (int i = 0; i < CALLS; i++) {
             if (!step()) {
-                return 1;
+                return false;
             }
         }
-        return 0;
+        return true;
+    }
+
+    /** A land of few CASES, in which SUITS and TURNS that win are not rare, asked for its DEEDS. */
+    private boolean wholeLand() {
+        int points = 3 + random.nextInt(4);
+        StringBuilder told = new StringBuilder("land " + points);
+        int cases = 2 + random.nextInt(3);
+        for (int i = 0; i < cases; i++) {
+            told.append(";case ").append(rest("case", points));
+        }
+        for (int i = 0; i < 3; i++) {
+            told.append(random.nextInt(3) != 0 ? "" : ";weight " + rest("weight", points));
+        }
+        if (!done(told.toString())) {
+            return false;
+        }
+        // a large land takes the naive one long: only some of its DEEDS
+        int step = points == 6 ? 7 : 1;
+        for (int deed = random.nextInt(step); deed < 1 << points; deed += step) {
+            for (int judgment = 0; judgment <= 3; judgment++) {
+                if (!winsAlike(deed, judgment)) {
+                    return false;
+                }
+            }
+        }
+        return true;
+    }
+
+    private boolean winsAlike(int deed, int judgment) {
+        String told = deed + " " + judgment + " ";
+        for (int i = -1; i < 2; i++) {
+            if (!same("suits " + told + i, x.suits(deed, judgment, i), y.suits(deed, judgment, i))) {
+                return false;
+            }
+        }
+        return same("turns " + told, x.turns(deed, judgment), y.turns(deed, judgment));
     }
 
     private boolean same(String call, long got, long want) {
-        if (got != want) {
-            check.due("seed " + seed + ": " + call, got, want);
-        }
+        CHECK.due("seed " + seed + ": " + call, got, want);
         return got == want;
     }
 
-    /** A number of a range, now and then just outside of it. */
+    /** A number of a range, now and then just outside of it, or far. */
     private int some(int low, int high) {
+        if (random.nextInt(200) == 0) {
+            return random.nextBoolean() ? Integer.MIN_VALUE : Integer.MAX_VALUE;
+        }
         if (random.nextInt(25) == 0) {
             return random.nextBoolean() ? low - 1 - random.nextInt(3) : high + 1 + random.nextInt(3);
         }
@@ -152,7 +189,7 @@ public final class AgainstNaiveTests {
     /** A text of some LINES, most of them right, told and done. */
     private boolean tell() {
         StringBuilder told = new StringBuilder();
-        int lines = some(1, 8);
+        int lines = 1 + random.nextInt(9);
         int points = x.count(0);
         for (int i = 0; i < lines; i++) {
             String word = WORDS[random.nextInt(WORDS.length)];
@@ -161,14 +198,19 @@ public final class AgainstNaiveTests {
             }
             told.append(told.length() == 0 ? "" : ";").append(blanks(0)).append(word).append(blanks(1));
             if (word.equals("land")) {
-                points = Math.max(1, Math.min(10, some(1, random.nextInt(3) == 0 ? 10 : 6)));
+                points = 1 + random.nextInt(random.nextInt(3) == 0 ? 10 : 6);
             }
             told.append(rest(word, points)).append(blanks(0));
         }
         if (random.nextInt(5) == 0 && told.length() > 0) {
             told.setCharAt(random.nextInt(told.length()), NOISE.charAt(random.nextInt(NOISE.length())));
         }
-        String text = told.toString();
+        boolean alike = done(told.toString());
+        return alike && (random.nextBoolean() || same("erase", x.erase(), y.erase()));
+    }
+
+    /** Writes a text to both and lets it be done. */
+    private boolean done(String text) {
         for (int from = 0; from < text.length(); from += 8) {
             String some = text.substring(from, Math.min(text.length(), from + 8));
             long bytes = 0;
@@ -179,9 +221,8 @@ public final class AgainstNaiveTests {
                 return false;
             }
         }
-        boolean alike = same("fault of " + text, x.fault(), y.fault())
+        return same("fault of " + text, x.fault(), y.fault())
                 && same("land of " + text, x.land(), y.land());
-        return alike && (random.nextBoolean() || same("erase", x.erase(), y.erase()));
     }
 
     private String blanks(int least) {
@@ -194,13 +235,13 @@ public final class AgainstNaiveTests {
                 return "" + points;
             case "weight":
             case "cost":
-                return random.nextInt(points) + blanks(1) + Math.abs(some(0, 9));
+                return random.nextInt(points) + blanks(1) + random.nextInt(random.nextInt(20) == 0 ? 11 : 10);
             case "case":
                 StringBuilder figures = new StringBuilder();
                 for (int p = 0; p < points; p++) {
                     figures.append(random.nextInt(2));
                 }
-                return figures + blanks(1) + Math.abs(some(0, 3)) + blanks(1)
+                return figures + blanks(1) + random.nextInt(random.nextInt(20) == 0 ? 5 : 4) + blanks(1)
                         + (random.nextInt(3) == 0 ? random.nextInt(10000) : random.nextInt(10));
             default:
                 return "" + random.nextInt(x.count(1) + 1);

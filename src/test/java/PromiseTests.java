@@ -17,6 +17,7 @@ public final class PromiseTests {
         faultOfStateBehindLines();
         faultOfLines();
         land();
+        landJudgesAnew();
         landIsRefused();
         point();
         older();
@@ -263,6 +264,32 @@ public final class PromiseTests {
         due("5 one POINT", x.count(0), 1);
         due("5 no CASES behind a land", x.count(1), 0);
         due("5 one WEIGHT", x.count(3), 1);
+        x = Check.landOf("case 0000 1 5;pardon 0;drop 0;case 1111 1 5");
+        due("5 a new CASE at the number of one that was PARDONED", x.older(0, 3), 0);
+        x = Check.landOf("case 0000 1 1;case 1111 2 3;case 1100 3 2;drop 0");
+        due("5 ELDER ones behind a drop", x.older(0, 4) * 10 + x.older(1, 4), 10);
+    }
+
+    /** What was JUDGED ahead of a text is not taken for what is JUDGED behind it. */
+    private static void landJudgesAnew() {
+        LikestCase x = Check.landOf(TWO);
+        due("5 ROPE", x.deeds(3, -1), 1);
+        Check.tell(x, "weight 0 0");
+        x.land();
+        due("5 ROPE behind a WEIGHT", x.deeds(3, -1), 2);
+        Check.tell(x, "case 01 3 0");
+        x.land();
+        due("5 ROPE behind a case", x.deeds(3, -1), 2);
+        due("5 BY it", x.deeds(3, 2), 2);
+        Check.tell(x, "drop 0");
+        x.land();
+        due("5 ROPE behind a drop", x.deeds(3, -1), 4);
+        Check.tell(x, "pardon 1");
+        x.land();
+        due("5 ROPE behind a pardon", x.deeds(3, -1), 0);
+        Check.tell(x, "land 3");
+        x.land();
+        due("5 FREE behind a land", x.deeds(0, -1), 0);
     }
 
     private static void landIsRefused() {
@@ -733,13 +760,34 @@ public final class PromiseTests {
         due("27 as they were: the first JUDGMENT", x.forged(), 2);
         due("27 as they were: DEEDS", x.deeds(3, -1), 0);
         due("27 as they were: ELDER ones", x.older(0, 4), 0);
+        Check.tell(x, "land 2;case 10 2 7;case 01 1 6");
+        x.land();
+        x.save(1);
+        Check.tell(x, "x");
+        x.bring(3, 0);
+        x.erase();
+        due("27 back again", x.back(1), 2);
+        due("27 DEED, JUDGMENT, YEAR of 0", x.older(0, 0) * 100 + x.older(0, 1) * 10 + x.older(0, 2), 127);
+        due("27 DEED, JUDGMENT, YEAR of 1", x.older(1, 0) * 100 + x.older(1, 1) * 10 + x.older(1, 2), 216);
+        due("27 ELDER ones of both", x.older(0, 4) * 10 + x.older(1, 4), 10);
+        x = Check.landOf(TWO);
+        x.save(0);
+        x.save(1);
+        x.bring(0, 0);
+        x.bring(0, 0);
+        x.back(1);
+        due("27 the first of all, from image 0", x.back(0) * 100 + x.older(0, 2) * 10 + x.older(0, 1), 300);
+        due("27 the last of all, from image 0", x.older(1, 2) * 10 + x.older(1, 1), 203);
+        x.pardon(1, true);
+        x.save(1);
         x.pardon(1, false);
         due("27 the image is not changed by that", x.back(1) * 10 + x.older(1, 3), 21);
         Check.tell(x, "cost 0 1");
         x.back(1);
         due("27 THE TEXT stays", x.count(2), 8);
         x.land();
-        due("27 nothing is kept behind a text", x.back(1), NOT);
+        due("27 nothing is kept behind a text, image 0", x.back(0), NOT);
+        due("27 nothing is kept behind a text, image 1", x.back(1), NOT);
         x.save(0);
         due("27 kept since then", x.back(0), 2);
         due("27 the other image was not", x.back(1), NOT);
