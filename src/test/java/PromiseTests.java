@@ -128,6 +128,12 @@ public final class PromiseTests {
         due("3 nothing was done", x.count(0), 4);
         Check.tell(x, "cost 0 2");
         due("3 a text behind it", x.land(), 1);
+        Check.tell(x, "cost 0 1");
+        x.erase();
+        due("3 what was erased is not read: no number", faultOf(x, "cost 0 "), 7);
+        due("3 what was erased is not read: no word", faultOf(x, ""), 0);
+        due("3 what was erased is not read: one figure", faultOf(x, "case 1111 0 2"), NONE);
+        due("3 what was erased is not read: three figures", faultOf(x, "case 111"), 5);
     }
 
     private static void faultOfWords() {
