@@ -108,9 +108,18 @@ public final class RuleTests {
         CHECK.due("at most twelve classes", inside.length + 1 <= 12);
         for (Class<?> one : inside) {
             CHECK.due("static: " + one.getName(), Modifier.isStatic(one.getModifiers()));
+            names(one);
             fields(one);
         }
         fields(LikestCase.class);
+    }
+
+    /** The document's names stand for its calls alone, also in the classes inside. */
+    private static void names(Class<?> told) {
+        for (Method m : told.getDeclaredMethods()) {
+            String begin = " " + m.getName() + "(";
+            CHECK.due("a name of its own: " + m, FACE.stream().noneMatch(call -> call.contains(begin)));
+        }
     }
 
     private static void fields(Class<?> told) {
